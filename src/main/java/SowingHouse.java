@@ -48,7 +48,7 @@ public final class SowingHouse {
     private final Sower sower = new Sower(ground, rule);
     private final Numbering numbering = new Numbering(ground);
     private final Past past = new Past();
-    private final Solver solver = new Solver(numbering, new Graph(ground, rule, sower, numbering));
+    private final Solver solver = new Solver(ground, numbering, new Graph(ground, rule, sower, numbering));
     private final Line bestLine = new Line();
     private final Player[] players = {new Player(), new Player()};
     private int why = NOT_REFUSED;
@@ -715,7 +715,7 @@ public final class SowingHouse {
     static final class Sower {
         private static final int LONG = -1;
         private static final int SHUT = 0;
-        private static final int STARVING = 1;
+        private static final int OPEN = 1;
         private static final int FEEDING = 2;
 
         final boolean[] open = new boolean[MOST_PITS];
@@ -733,12 +733,10 @@ public final class SowingHouse {
 
         /** Answers how many moves are allowed; what each does stands in the rows till the next survey. */
         int survey(int[] cells, int side) {
-            int least = STARVING;
+            int least = OPEN;
             for (int pit = 0; pit < ground.pits; pit++) {
                 found[pit] = tryPit(cells, side, pit);
-                if (rule.mustFeed && found[pit] > least) {
-                    least = found[pit];
-                }
+                least = Math.max(least, found[pit]);
             }
             openCount = 0;
             for (int pit = 0; pit < ground.pits; pit++) {
@@ -784,7 +782,7 @@ public final class SowingHouse {
             if (!carryOut(cells, side, pit)) {
                 return LONG;
             }
-            return ground.seedsOf(1 - side, after[pit]) > 0 ? FEEDING : STARVING;
+            return rule.mustFeed && ground.seedsOf(1 - side, after[pit]) > 0 ? FEEDING : OPEN;
         }
 
         /** Answers whether the move comes to an end within the rounds of the rule. */
@@ -1027,11 +1025,17 @@ public final class SowingHouse {
             builtLayers = 0;
         }
 
+        boolean hasMove(int place) {
+            return starts[place] < starts[place + 1];
+        }
+
         void makeRoom(int room) {
-            if (room > endings.length) {
-                endings = Arrays.copyOf(endings, room);
-                starts = Arrays.copyOf(starts, room + 1);
-            }
+            endings = Arrays.copyOf(endings, room);
+            starts = Arrays.copyOf(starts, room + 1);
+        }
+
+        void makeMoveRoom(int room) {
+            edges = Arrays.copyOf(edges, room);
         }
 
         int edgeFrom(int place, int pit) {
@@ -1056,7 +1060,6 @@ public final class SowingHouse {
 
         private void keepSurvey(int place, int side) {
             int count = starts[place];
-            makeEdgeRoom(count + sower.openCount);
             for (int pit = ground.firstOfSide[side]; pit < ground.endOfSide[side]; pit++) {
                 if (sower.open[pit]) {
                     int behind = 2 * (int) numbering.numberOf(sower.after[pit]) + 1 - side;
@@ -1068,18 +1071,10 @@ public final class SowingHouse {
             endings[place] = rule.countsFor(side, side, cells, ground)
                     - rule.countsFor(1 - side, side, cells, ground);
         }
-
-        private void makeEdgeRoom(int needed) {
-            if (needed > edges.length) {
-                edges = Arrays.copyOf(edges, Math.max(needed, Math.max(2 * edges.length, 256)));
-            }
-        }
     }
 
     /** Values, ranks and claims of the places that solving was begun for. */
     static final class Solver {
-        private static final int MOST_ROUNDS = 1000000;
-
         final Graph graph;
         boolean begun;
         int places;
@@ -1088,12 +1083,15 @@ public final class SowingHouse {
         int[] ranks = new int[0];
         int[] claimedValues = new int[0];
         int[] claimedRanks = new int[0];
-        private int[] earlier = new int[0];
         private int layers;
         private int solvedLayers;
+        private final Rounds rounds;
+        private final Ground ground;
         private final Numbering numbering;
 
-        Solver(Numbering numbering, Graph graph) {
+        Solver(Ground ground, Numbering numbering, Graph graph) {
+            this.rounds = new Rounds(graph);
+            this.ground = ground;
             this.numbering = numbering;
             this.graph = graph;
         }
@@ -1110,8 +1108,11 @@ public final class SowingHouse {
             solvedLayers = 0;
             solvedPlaces = 0;
             makeRoom();
-            Arrays.fill(claimedValues, 0);
-            Arrays.fill(claimedRanks, 0);
+            makeMoveRoom(ground.liveCount * (int) numbering.boardsUpTo(seeds - 1));
+            for (int place = 0; place < places; place++) {
+                claimedValues[place] = 0;
+                claimedRanks[place] = 0;
+            }
         }
 
         int layersLeft() {
@@ -1133,17 +1134,9 @@ public final class SowingHouse {
         }
 
         void solveNextLayer() {
-            int start = solvedPlaces;
             int end = 2 * (int) numbering.boardsUpTo(solvedLayers);
             graph.buildLayer(solvedLayers);
-            for (int place = start; place < end; place++) {
-                ranks[place] = 0;
-                values[place] = hasMove(place) ? 0 : graph.endings[place];
-            }
-            boolean changed = true;
-            for (int round = 1; changed && round < MOST_ROUNDS; round++) {
-                changed = doRound(start, end, round);
-            }
+            rounds.solveLayer(solvedPlaces, end, values, ranks);
             solvedLayers++;
             solvedPlaces = end;
         }
@@ -1214,49 +1207,29 @@ public final class SowingHouse {
             return d;
         }
 
-        private boolean hasMove(int place) {
-            return graph.starts[place] < graph.starts[place + 1];
-        }
-
         /** Room is doubled, so that many solvings of growing size do not make many rows. */
         private void makeRoom() {
-            if (places <= values.length) {
-                return;
+            if (places > values.length) {
+                int room = Math.min(Math.max(places, 2 * values.length), MOST_PLACES);
+                values = new int[room];
+                ranks = new int[room];
+                claimedValues = new int[room];
+                claimedRanks = new int[room];
+                graph.makeRoom(room);
+                rounds.makeRoom(room);
             }
-            int room = Math.min(Math.max(places, 2 * values.length), MOST_PLACES);
-            values = new int[room];
-            ranks = new int[room];
-            claimedValues = new int[room];
-            claimedRanks = new int[room];
-            earlier = new int[room];
-            graph.makeRoom(room);
         }
 
-        private boolean doRound(int start, int end, int round) {
-            System.arraycopy(values, start, earlier, start, end - start);
-            boolean changed = false;
-            for (int place = start; place < end; place++) {
-                if (hasMove(place)) {
-                    int most = mostReached(place, start);
-                    if (most != values[place]) {
-                        values[place] = most;
-                        ranks[place] = round;
-                        changed = true;
-                    }
-                }
+        /**
+         * A board and a pit of it with seeds are as many pairs as a pit and a board with one seed less, so
+         * that the caller knows how many moves there can be.
+         */
+        private void makeMoveRoom(int needed) {
+            if (needed > graph.edges.length) {
+                int room = Math.max(needed, 2 * graph.edges.length);
+                graph.makeMoveRoom(room);
+                rounds.makeMoveRoom(room);
             }
-            return changed;
-        }
-
-        private int mostReached(int place, int layerStart) {
-            int most = -MOST_CLAIMED;
-            for (int i = graph.starts[place]; i < graph.starts[place + 1]; i++) {
-                int edge = graph.edges[i];
-                int behind = Graph.placeBehind(edge);
-                int reach = Graph.takenBy(edge) - (behind < layerStart ? values[behind] : earlier[behind]);
-                most = Math.max(most, reach);
-            }
-            return most;
         }
 
         /** Whether a move takes seeds, or leads to a lesser rank than that of the place it is made from. */
@@ -1265,7 +1238,7 @@ public final class SowingHouse {
         }
 
         private boolean isClaimRight(int place) {
-            if (!hasMove(place)) {
+            if (!graph.hasMove(place)) {
                 return claimedValues[place] == graph.endings[place] && claimedRanks[place] == 0;
             }
             int claimed = claimedValues[place];
@@ -1286,6 +1259,119 @@ public final class SowingHouse {
                 }
             }
             return reached && (claimed <= 0 || oneForward) && (claimed >= 0 || allForward);
+        }
+    }
+
+    /**
+     * Solves a layer round by round. Behind the first round only places are weighed again that lead to one
+     * which the round ahead has changed: no other can change.
+     */
+    static final class Rounds {
+        private static final int MOST_ROUNDS = 1000000;
+
+        private final Graph graph;
+        private int[] weighed = new int[0];
+        private int[] fresh = new int[0];
+        private int[] upcoming = new int[0];
+        private int[] listedIn = new int[0];
+        private int[] leaderStarts = new int[1];
+        private int[] leaders = new int[0];
+
+        Rounds(Graph graph) {
+            this.graph = graph;
+        }
+
+        void makeRoom(int room) {
+            weighed = new int[room];
+            fresh = new int[room];
+            upcoming = new int[room];
+            listedIn = new int[room];
+            leaderStarts = new int[room + 1];
+        }
+
+        void makeMoveRoom(int room) {
+            leaders = new int[room];
+        }
+
+        void solveLayer(int start, int end, int[] values, int[] ranks) {
+            listLeaders(start, end);
+            int count = 0;
+            for (int place = start; place < end; place++) {
+                ranks[place] = 0;
+                listedIn[place] = 0;
+                values[place] = 0;
+                if (graph.hasMove(place)) {
+                    weighed[count] = place;
+                    count++;
+                } else {
+                    values[place] = graph.endings[place];
+                }
+            }
+            for (int round = 1; count > 0 && round < MOST_ROUNDS; round++) {
+                weigh(count, values);
+                count = settle(count, round, values, ranks);
+            }
+        }
+
+        /** For each place of the layer: the places of the same layer with a move that leads to it. */
+        private void listLeaders(int start, int end) {
+            for (int place = start; place <= end; place++) {
+                leaderStarts[place] = 0;
+            }
+            for (int i = graph.starts[start]; i < graph.starts[end]; i++) {
+                int behind = Graph.placeBehind(graph.edges[i]);
+                if (behind >= start) {
+                    leaderStarts[behind]++;
+                }
+            }
+            for (int place = start + 1; place <= end; place++) {
+                leaderStarts[place] += leaderStarts[place - 1];
+            }
+            for (int place = start; place < end; place++) {
+                for (int i = graph.starts[place]; i < graph.starts[place + 1]; i++) {
+                    int behind = Graph.placeBehind(graph.edges[i]);
+                    if (behind >= start) {
+                        leaderStarts[behind]--;
+                        leaders[leaderStarts[behind]] = place;
+                    }
+                }
+            }
+        }
+
+        /** No value is changed here: a round sees the values as they were behind the one ahead of it. */
+        private void weigh(int count, int[] values) {
+            for (int k = 0; k < count; k++) {
+                int place = weighed[k];
+                int most = -MOST_CLAIMED;
+                for (int i = graph.starts[place]; i < graph.starts[place + 1]; i++) {
+                    int edge = graph.edges[i];
+                    most = Math.max(most, Graph.takenBy(edge) - values[Graph.placeBehind(edge)]);
+                }
+                fresh[k] = most;
+            }
+        }
+
+        /** Answers how many places are to be weighed in the next round. */
+        private int settle(int count, int round, int[] values, int[] ranks) {
+            int listed = 0;
+            for (int k = 0; k < count; k++) {
+                int place = weighed[k];
+                if (fresh[k] != values[place]) {
+                    values[place] = fresh[k];
+                    ranks[place] = round;
+                    for (int i = leaderStarts[place]; i < leaderStarts[place + 1]; i++) {
+                        if (listedIn[leaders[i]] != round) {
+                            listedIn[leaders[i]] = round;
+                            upcoming[listed] = leaders[i];
+                            listed++;
+                        }
+                    }
+                }
+            }
+            int[] done = weighed;
+            weighed = upcoming;
+            upcoming = done;
+            return listed;
         }
     }
 
