@@ -1049,11 +1049,13 @@ public final class SowingHouse {
 
         void buildLayer(int layer) {
             for (; builtLayers <= layer; builtLayers++) {
-                int end = 2 * (int) numbering.boardsUpTo(builtLayers);
-                for (int place = 2 * (int) numbering.boardsUpTo(builtLayers - 1); place < end; place++) {
-                    numbering.fill(cells, place >> 1);
-                    sower.survey(cells, place & 1);
-                    keepSurvey(place, place & 1);
+                int end = (int) numbering.boardsUpTo(builtLayers);
+                for (int board = (int) numbering.boardsUpTo(builtLayers - 1); board < end; board++) {
+                    numbering.fill(cells, board);
+                    for (int side = 0; side < 2; side++) {
+                        sower.survey(cells, side);
+                        keepSurvey(2 * board + side, side);
+                    }
                 }
             }
         }

@@ -43,7 +43,6 @@ public final class AgainstPlainTest {
         }
         for (int i = 0; i < calls; i++) {
             call(leaning);
-            due.is("status()", house.status(), plain.status());
             if (i % 16 == 15 || i == calls - 1) {
                 due.is("digest()", house.digest(), plain.digest());
             }
@@ -268,6 +267,8 @@ public final class AgainstPlainTest {
         for (int i = 0; i < arguments.length; i++) {
             text.append(i > 0 ? ", " : "").append(arguments[i]);
         }
-        due.is(text.append(')').toString(), got, want);
+        text.append(')');
+        due.is(text.toString(), got, want);
+        due.is(text.append(": status()").toString(), house.status(), plain.status());
     }
 }

@@ -21,6 +21,9 @@ public final class PlaceTest {
         DUE.refused(x, "23: positions(-1)", x.positions(-1), 7);
         DUE.refused(x, "23: positions(13)", x.positions(13), 7);
         DUE.refused(x, "23: positions(-2^31)", x.positions(Integer.MIN_VALUE), 7);
+        DUE.made(x, "23: not refused", x.positions(12), 182);
+        DUE.refused(x, "23: positions(2^31 - 1)", x.positions(Integer.MAX_VALUE), 7);
+        DUE.made(x, "24: not refused", x.place(), 0);
         x.lack(0, 0);
         DUE.made(x, "23: one PIT", x.positions(12), 26);
     }
