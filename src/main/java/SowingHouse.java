@@ -340,9 +340,6 @@ public final class SowingHouse {
         if (pit < 0 || pit >= ground.pits) {
             return refuse(NO_SUCH_THING);
         }
-        if (ground.lacks[pit]) {
-            return refuse(PIT_LACKS);
-        }
         int edge = solver.graph.edgeFrom(place, pit);
         if (edge < 0) {
             return refuse(NOT_ALLOWED);

@@ -337,9 +337,6 @@ final class PlainHouse {
         if (pit < 0 || pit >= rows * columns) {
             return no(3);
         }
-        if (lacks[pit / columns][pit % columns]) {
-            return no(1);
-        }
         for (Step step : steps.get(place)) {
             if (step.pit == pit) {
                 return yes(step.taken - values[step.place]);

@@ -17,6 +17,7 @@ public final class SolveTest {
         valuesRefuse();
         best();
         reaches();
+        reachesOfLackingPit();
         endings();
         countAndFind();
         claims();
@@ -246,9 +247,29 @@ public final class SolveTest {
         x.goOn(13);
         DUE.refused(x, "31: LONG or not", x.reaches(4, 0), 5);
         DUE.made(x, "31: a lone seed", x.reaches(2, 0), 1);
-        DUE.refused(x, "31: a PIT that LACKS", x.reaches(2, 1), 1);
+        DUE.refused(x, "31: a PIT that LACKS", x.reaches(2, 1), 5);
         DUE.refused(x, "30: its one move is LONG", x.best(4), 5);
         DUE.made(x, "28: what counts", x.value(4), 2);
+    }
+
+    /** A PIT that LACKS is a PIT of the board still: the line of reaches tells 5 of it, behind 9, 3, 9. */
+    private static void reachesOfLackingPit() {
+        SowingHouse x = new SowingHouse();
+        x.lack(0, 1);
+        x.lack(1, 2);
+        DUE.refused(x, "31: it LACKS, no solving", x.reaches(0, 1), 9);
+        x.solve(2);
+        DUE.refused(x, "31: it LACKS, the LAYER is not solved", x.reaches(0, 1), 9);
+        x.goOn(2);
+        for (int place = 0; place < 10; place++) {
+            DUE.refused(x, "31: PIT 1 LACKS", x.reaches(place, 1), 5);
+            DUE.refused(x, "31: PIT 5 LACKS", x.reaches(place, 5), 5);
+        }
+        DUE.refused(x, "31: it LACKS, no such PLACE", x.reaches(-1, 1), 3);
+        DUE.refused(x, "31: it LACKS, no such PLACE", x.reaches(30, 1), 3);
+        DUE.refused(x, "31: it LACKS, a later LAYER", x.reaches(10, 1), 9);
+        DUE.refused(x, "31: no such PIT behind the last, which LACKS", x.reaches(0, 6), 3);
+        DUE.refused(x, "13: but a move from it is refused with 1", x.move(0, 1), 1);
     }
 
     /** One seed in PIT 0, SIDE 1 to move (PLACE 5), and LEAST 2 with both PITS of one (PLACES 8 and 9). */
