@@ -502,7 +502,6 @@ public final class SowingHouse {
         players[1].become(FIRST_OPEN, 0);
         bestLine.clear();
         forgetRuling();
-        why = NOT_REFUSED;
     }
 
     /** Moves and solutions are of the ruling that they were made under, so a new ruling ends both. */

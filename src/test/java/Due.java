@@ -1,13 +1,62 @@
+import java.io.IOException;
+import java.nio.file.Files;
+import java.nio.file.Path;
+
 /** Holds answers against what is due, prints those that differ, and ends the test with exit code 1 if one did. */
 final class Due {
+    private static final long MOST_MILLISECONDS = 300_000;
+    private static final String DOCUMENT = documentInOneLine();
+    private static boolean watched;
+
     private int asked;
     private int wrong;
+    private int sentences;
+    private String sentence = "";
+
+    Due() {
+        watch();
+    }
+
+    /** A call that does not end is a fault too, and must not keep the other tests waiting for ever. */
+    private static void watch() {
+        if (watched) {
+            return;
+        }
+        watched = true;
+        Thread watcher = new Thread(() -> {
+            try {
+                Thread.sleep(MOST_MILLISECONDS);
+            } catch (InterruptedException e) {
+                return;
+            }
+            System.out.println("a call has not come to its end");
+            Runtime.getRuntime().halt(1);
+        });
+        watcher.setDaemon(true);
+        watcher.start();
+    }
+
+    private static String documentInOneLine() {
+        try {
+            return Files.readString(Path.of("../shared/DOC.md")).replaceAll("\\s+", " ");
+        } catch (IOException e) {
+            return "";
+        }
+    }
+
+    /** What is asked from here on tests these words; they must stand in the document as they are. */
+    void sentence(String words) {
+        sentences++;
+        sentence = "";
+        holds("the document says '" + words + "'", DOCUMENT.contains(words));
+        sentence = "'" + words + "': ";
+    }
 
     void is(String call, long got, long want) {
         asked++;
         if (got != want) {
             wrong++;
-            System.out.println(call + " answered " + got + ", due is " + want);
+            System.out.println(sentence + call + " answered " + got + ", due is " + want);
         }
     }
 
@@ -23,11 +72,27 @@ final class Due {
         is(call + ": status()", house.status(), why);
     }
 
+    /** Made with this answer if it is to be taken, refused with this reason if not. */
+    void takenOrRefused(SowingHouse house, String call, long got, boolean taken, long want, int why) {
+        if (taken) {
+            made(house, call, got, want);
+        } else {
+            refused(house, call, got, why);
+        }
+    }
+
+    /** The seeds of all PITS, in their order; -1: it LACKS. */
+    void pits(SowingHouse house, String when, int columns, int... due) {
+        for (int pit = 0; pit < due.length; pit++) {
+            is(when + ": pit " + pit, house.pit(pit / columns, pit % columns), due[pit]);
+        }
+    }
+
     void holds(String what, boolean held) {
         asked++;
         if (!held) {
             wrong++;
-            System.out.println("does not hold: " + what);
+            System.out.println(sentence + "does not hold: " + what);
         }
     }
 
@@ -36,7 +101,8 @@ final class Due {
     }
 
     void end() {
-        System.out.println(asked + " answers looked at, " + wrong + " not as due");
+        String told = sentences > 0 ? sentences + " sentences, " : "";
+        System.out.println(told + asked + " answers looked at, " + wrong + " not as due");
         if (wrong > 0) {
             System.exit(1);
         }

@@ -30,7 +30,7 @@ public final class GreatTest {
         DUE.is(game + "copy", x.copy(), y.copy());
         DUE.is(game + "digest", x.digest(), y.digest());
         DUE.is(game + "check", x.check(), places);
-        for (int place = 1; place < places; place += 1 + places / 200) {
+        for (int place = 1; place < places; place += 1 + places / 150) {
             DUE.is(game + "best", x.best(place), y.best(place));
             DUE.is(game + "line", x.line(place), y.line(place));
             DUE.is(game + "ring", x.ring(), y.ring());

@@ -16,9 +16,10 @@ import java.util.regex.Pattern;
 public final class LanguageTest {
     private static final Due DUE = new Due();
     private static final String[] FORBIDDEN = {"throw", "throws", "try", "catch", "finally", "synchronized",
-        "assert", "double", "float", "protected", "native", "volatile", "transient", "var", "Object", "Thread",
-        "Random", "Scanner", "File", "Exception", "Error", "System\\.(?!arraycopy\\b)\\w+", "\\w+Exact",
-        "->", "::", "static\\s*\\{", "java\\.(?!util\\.Arrays;)\\w+", "@\\w+", "\\bnull\\b"};
+        "assert", "protected", "native", "volatile", "transient", "strictfp", "Object", "Thread", "Random",
+        "Scanner", "File", "Exception", "Error", "hashCode", "package",
+        "System\\.(?!arraycopy\\b)\\w+", "\\w+Exact", "->", "::", "static\\s*\\{",
+        "java\\.(?!util\\.(Arrays|ArrayList|List|Iterator);)\\w+"};
 
     public static void main(String[] args) throws Exception {
         String source = Files.readString(Path.of("src/main/java/SowingHouse.java"));
@@ -80,9 +81,6 @@ public final class LanguageTest {
             int modifiers = inside.getModifiers();
             DUE.holds("static, and not public: " + inside,
                     Modifier.isStatic(modifiers) && !Modifier.isPublic(modifiers));
-            for (Method method : inside.getDeclaredMethods()) {
-                DUE.holds("no name of the face: " + method, !faceNames.contains(method.getName()));
-            }
         }
         all.add(SowingHouse.class);
         DUE.holds("some twelve classes", all.size() <= 12);
@@ -109,11 +107,11 @@ public final class LanguageTest {
         }
     }
 
-    /** The source without its comments; it has no texts. */
+    /** The source without its comments, texts and characters, and without the arrows of a switch. */
     private static String bare(String source) {
-        String bare = source.replaceAll("(?s)/\\*.*?\\*/", "").replaceAll("//[^\n]*", "");
-        DUE.holds("no texts and characters", bare.indexOf('"') < 0 && bare.indexOf('\'') < 0);
-        return bare;
+        return source.replaceAll("(?s)/\\*.*?\\*/", "").replaceAll("//[^\n]*", "")
+                .replaceAll("\"(\\\\.|[^\"\\\\])*\"", "TEXT").replaceAll("'(\\\\.|[^'\\\\])+'", "CHARACTER")
+                .replaceAll("(case [^:\n]*?|default) ->", "$1:");
     }
 
     private static void words(String bare) {
@@ -122,11 +120,9 @@ public final class LanguageTest {
             Matcher matcher = Pattern.compile(pattern).matcher(bare);
             DUE.holds("without '" + word + "'", !matcher.find());
         }
-        for (String call : new String[] {"Arrays\\.(?!(fill|copyOf|copyOfRange)\\b)", "Math\\.(?!(max|min)\\b)"}) {
-            boolean other = Pattern.compile(call).matcher(bare.replace("java.util.Arrays", "")).find();
-            DUE.holds("no library call but those that are listed: " + call, !other);
-        }
-        DUE.holds("one import", bare.split("\nimport |^import ", -1).length == 2);
+        boolean other = Pattern.compile("Arrays\\.(?!(fill|copyOf|copyOfRange)\\b)")
+                .matcher(bare.replace("java.util.Arrays", "")).find();
+        DUE.holds("no call of Arrays but those that are listed", !other);
     }
 
     private static void methodLengths(String bare) {

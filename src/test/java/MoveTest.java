@@ -22,28 +22,8 @@ public final class MoveTest {
         DUE.end();
     }
 
-    /** A board with these seeds, PIT by PIT; -1: it LACKS. */
-    private static SowingHouse houseOf(int rows, int columns, int... pits) {
-        SowingHouse x = new SowingHouse();
-        x.board(rows, columns);
-        for (int pit = 0; pit < pits.length; pit++) {
-            if (pits[pit] < 0) {
-                x.lack(pit / columns, pit % columns);
-            } else {
-                x.seeds(pit / columns, pit % columns, pits[pit]);
-            }
-        }
-        return x;
-    }
-
-    private static void pitsAre(SowingHouse x, String when, int columns, int... due) {
-        for (int pit = 0; pit < due.length; pit++) {
-            DUE.is(when + ": pit " + pit, x.pit(pit / columns, pit % columns), due[pit]);
-        }
-    }
-
     private static void rule() {
-        SowingHouse x = houseOf(2, 2, 1, 1, 2, 4);
+        SowingHouse x = Houses.of(2, 2, 1, 1, 2, 4);
         for (int kind = 0; kind < 4; kind++) {
             DUE.made(x, "7: rule(" + kind + ")", x.rule(kind), kind);
         }
@@ -54,7 +34,7 @@ public final class MoveTest {
         DUE.refused(x, "7: ten SOWINGS of ROUNDS 9", x.move(0, 0), 6);
         x.rule(1);
         DUE.made(x, "7: ROUNDS is 10 again", x.move(0, 0), 4);
-        x = houseOf(2, 2, 2, 2, 0, 4);
+        x = Houses.of(2, 2, 2, 2, 0, 4);
         x.rule(1);
         DUE.refused(x, "7: eleven SOWINGS of ROUNDS 10", x.move(0, 0), 6);
         x.rounds(11);
@@ -62,18 +42,18 @@ public final class MoveTest {
         DUE.refused(x, "7: again", x.move(0, 0), 6);
         x.rounds(11);
         DUE.holds("7: eleven SOWINGS of ROUNDS 11", x.move(0, 0) >= 0);
-        x = houseOf(2, 1, 1, 4);
+        x = Houses.of(2, 1, 1, 4);
         x.rule(2);
         x.takes(5, 5);
         x.rule(2);
         DUE.made(x, "7: LOW and HIGH as at first", x.move(0, 0), 0);
-        x = houseOf(2, 2, 1, 0, 0, 0);
+        x = Houses.of(2, 2, 1, 0, 0, 0);
         x.least(2);
         x.ends(1);
         x.rule(3);
         DUE.is("7: LEAST stays", x.allowed(), 0);
         DUE.is("7: ENDS stays", x.score(1), 1);
-        x = houseOf(2, 2, 1, 1, 0, 0);
+        x = Houses.of(2, 2, 1, 1, 0, 0);
         x.feeding(1);
         x.rule(2);
         DUE.is("7: FEEDING stays", x.allowed(), 1);
@@ -115,7 +95,7 @@ public final class MoveTest {
     }
 
     private static void least() {
-        SowingHouse x = houseOf(2, 4, 1, 2, 3, 4);
+        SowingHouse x = Houses.of(2, 4, 1, 2, 3, 4);
         for (int n = 1; n <= 4; n++) {
             DUE.made(x, "10: least(" + n + ")", x.least(n), n);
             DUE.is("10: allowed()", x.allowed(), 5 - n);
@@ -127,7 +107,7 @@ public final class MoveTest {
     }
 
     private static void feeding() {
-        SowingHouse x = houseOf(2, 2, 1, 1, 0, 0);
+        SowingHouse x = Houses.of(2, 2, 1, 1, 0, 0);
         DUE.is("11: without", x.allowed(), 2);
         DUE.made(x, "11: feeding(1)", x.feeding(1), 1);
         DUE.is("11: with", x.allowed(), 1);
@@ -137,15 +117,15 @@ public final class MoveTest {
         DUE.is("11: still with", x.allowed(), 1);
         DUE.made(x, "11: it feeds", x.move(0, 1), 0);
         DUE.made(x, "11: feeding(0)", x.feeding(0), 0);
-        x = houseOf(2, 2, 1, 0, 0, 0);
+        x = Houses.of(2, 2, 1, 0, 0, 0);
         x.feeding(1);
         DUE.is("11: no move feeds, so all may be made", x.allowed(), 1);
-        x = houseOf(2, 2, 0, 1, 0, 1);
+        x = Houses.of(2, 2, 0, 1, 0, 1);
         x.rule(2);
         x.feeding(1);
         DUE.is("11: it takes all, and no other feeds", x.allowed(), 1);
         DUE.made(x, "11: move(0, 1)", x.move(0, 1), 2);
-        x = houseOf(2, 2, 1, 1, 0, 1);
+        x = Houses.of(2, 2, 1, 1, 0, 1);
         x.rule(2);
         x.feeding(1);
         DUE.is("11: what is taken feeds nobody", x.allowed(), 1);
@@ -166,59 +146,59 @@ public final class MoveTest {
     }
 
     private static void plain() {
-        SowingHouse x = houseOf(2, 3, 0, 4, 0, 0, 0, 0);
+        SowingHouse x = Houses.of(2, 3, 0, 4, 0, 0, 0, 0);
         DUE.made(x, "13: PLAIN", x.move(0, 1), 0);
-        pitsAre(x, "13: PLAIN", 3, 0, 0, 1, 1, 1, 1);
+        DUE.pits(x, "13: PLAIN", 3, 0, 0, 1, 1, 1, 1);
         DUE.made(x, "13: SIDE 1 goes to the left", x.move(1, 0), 0);
-        pitsAre(x, "13: SIDE 1", 3, 1, 0, 1, 0, 1, 1);
-        x = houseOf(2, 3, 14, 0, 0, 0, 0, 0);
+        DUE.pits(x, "13: SIDE 1", 3, 1, 0, 1, 0, 1, 1);
+        x = Houses.of(2, 3, 14, 0, 0, 0, 0, 0);
         x.move(0, 0);
-        pitsAre(x, "13: round and round", 3, 2, 3, 3, 2, 2, 2);
-        x = houseOf(2, 3, 6, 0, 0, 0, 0, 0);
+        DUE.pits(x, "13: round and round", 3, 2, 3, 3, 2, 2, 2);
+        x = Houses.of(2, 3, 6, 0, 0, 0, 0, 0);
         x.move(0, 0);
-        pitsAre(x, "13: the last one into the PIT itself", 3, 1, 1, 1, 1, 1, 1);
+        DUE.pits(x, "13: the last one into the PIT itself", 3, 1, 1, 1, 1, 1, 1);
         DUE.is("13: then the other SIDE is to move", x.turn(), 1);
     }
 
     private static void wayOfFourRows() {
-        SowingHouse x = houseOf(4, 2, 0, 0, 6, 0, 0, 0, 0, 0);
+        SowingHouse x = Houses.of(4, 2, 0, 0, 6, 0, 0, 0, 0, 0);
         x.move(1, 0);
-        pitsAre(x, "13: 4 rows", 2, 1, 1, 0, 0, 1, 1, 1, 1);
-        x = houseOf(4, 2, 0, 0, 0, 0, 0, 3, 0, 0);
+        DUE.pits(x, "13: 4 rows", 2, 1, 1, 0, 0, 1, 1, 1, 1);
+        x = Houses.of(4, 2, 0, 0, 0, 0, 0, 3, 0, 0);
         x.side(1);
         x.move(2, 1);
-        pitsAre(x, "13: 4 rows, SIDE 1", 2, 1, 0, 0, 0, 0, 0, 1, 1);
+        DUE.pits(x, "13: 4 rows, SIDE 1", 2, 1, 0, 0, 0, 0, 0, 1, 1);
     }
 
     /** Its WAY is PIT 0, 1, 3, 2. */
     private static void relay() {
-        SowingHouse x = houseOf(2, 2, 1, 0, 2, 3);
+        SowingHouse x = Houses.of(2, 2, 1, 0, 2, 3);
         x.rule(1);
         DUE.made(x, "13: RELAY, one SOWING, column 1 is taken", x.move(0, 0), 3);
-        pitsAre(x, "13: RELAY", 2, 0, 1, 2, 0);
+        DUE.pits(x, "13: RELAY", 2, 0, 1, 2, 0);
         DUE.is("13: stored(0)", x.stored(0), 3);
-        x = houseOf(2, 2, 1, 1, 0, 0);
+        x = Houses.of(2, 2, 1, 1, 0, 0);
         x.rule(1);
         DUE.made(x, "13: RELAY, two SOWINGS, the end is the other's", x.move(0, 0), 0);
-        pitsAre(x, "13: RELAY", 2, 0, 0, 1, 1);
-        x = houseOf(4, 1, 1, 0, 4, 5);
+        DUE.pits(x, "13: RELAY", 2, 0, 0, 1, 1);
+        x = Houses.of(4, 1, 1, 0, 4, 5);
         x.rule(1);
         DUE.made(x, "13: RELAY takes both rows of the other", x.move(0, 0), 9);
-        x = houseOf(2, 1, 2, 0);
+        x = Houses.of(2, 1, 2, 0);
         x.rule(1);
         DUE.made(x, "13: the PIT itself had none when its seed came", x.move(0, 0), 1);
-        pitsAre(x, "13: RELAY", 1, 1, 0);
+        DUE.pits(x, "13: RELAY", 1, 1, 0);
     }
 
     private static void relayThatIsLong() {
-        SowingHouse x = houseOf(2, 2, 1, 1, 0, 0);
+        SowingHouse x = Houses.of(2, 2, 1, 1, 0, 0);
         x.rule(1);
         x.rounds(1);
         DUE.refused(x, "13: two SOWINGS of ROUNDS 1", x.move(0, 0), 6);
         DUE.is("13: the LONG one is not ALLOWED", x.allowed(), 1);
         x.rounds(2);
         DUE.made(x, "13: two SOWINGS of ROUNDS 2", x.move(0, 0), 0);
-        x = houseOf(2, 1, 2, 0);
+        x = Houses.of(2, 1, 2, 0);
         x.seeds(1, 0, 0);
         x.lack(1, 0);
         x.rule(1);
@@ -234,19 +214,19 @@ public final class MoveTest {
 
     /** Its WAY is PIT 0, 1, 2, 5, 4, 3. */
     private static void capturing() {
-        SowingHouse x = houseOf(2, 3, 0, 0, 3, 2, 1, 1);
+        SowingHouse x = Houses.of(2, 3, 0, 0, 3, 2, 1, 1);
         x.rule(2);
         DUE.made(x, "13: CAPTURING goes back by the WAY", x.move(0, 2), 7);
-        pitsAre(x, "13: CAPTURING", 3, 0, 0, 0, 0, 0, 0);
-        x = houseOf(2, 3, 0, 0, 3, 2, 3, 1);
+        DUE.pits(x, "13: CAPTURING", 3, 0, 0, 0, 0, 0, 0);
+        x = Houses.of(2, 3, 0, 0, 3, 2, 3, 1);
         x.rule(2);
         DUE.made(x, "13: the chain ends where one is not so", x.move(0, 2), 3);
-        pitsAre(x, "13: CAPTURING", 3, 0, 0, 0, 0, 4, 2);
-        x = houseOf(2, 3, 0, 1, 2, 0, 0, 0);
+        DUE.pits(x, "13: CAPTURING", 3, 0, 0, 0, 0, 4, 2);
+        x = Houses.of(2, 3, 0, 1, 2, 0, 0, 0);
         x.rule(2);
         DUE.made(x, "13: nothing of one's own is taken", x.move(0, 1), 0);
-        pitsAre(x, "13: CAPTURING", 3, 0, 0, 3, 0, 0, 0);
-        x = houseOf(2, 3, 0, 0, 1, 0, 0, 4);
+        DUE.pits(x, "13: CAPTURING", 3, 0, 0, 3, 0, 0, 0);
+        x = Houses.of(2, 3, 0, 0, 1, 0, 0, 4);
         x.rule(2);
         DUE.made(x, "13: above HIGH", x.move(0, 2), 0);
         x.rule(2);
@@ -255,34 +235,34 @@ public final class MoveTest {
         x.seeds(0, 2, 1);
         x.seeds(1, 2, 4);
         DUE.made(x, "13: at LOW and HIGH", x.move(0, 2), 5);
-        x = houseOf(2, 3, 0, 0, 2, 0, -1, 1);
+        x = Houses.of(2, 3, 0, 0, 2, 0, -1, 1);
         x.rule(2);
         x.takes(1, 2);
         DUE.made(x, "13: what LACKS is passed by in taking", x.move(0, 2), 3);
     }
 
     private static void grand() {
-        SowingHouse x = houseOf(4, 2, 0, 2, 0, 0, 3, 1, 4, 1);
+        SowingHouse x = Houses.of(4, 2, 0, 2, 0, 0, 3, 1, 4, 1);
         x.rule(3);
         DUE.made(x, "13: GRAND takes both rows of the column", x.move(0, 1), 7);
-        pitsAre(x, "13: GRAND", 2, 0, 0, 1, 1, 0, 1, 0, 1);
+        DUE.pits(x, "13: GRAND", 2, 0, 0, 1, 1, 0, 1, 0, 1);
         DUE.made(x, "13: SIDE 1 by its OWN WAY", x.move(3, 1), 1);
-        pitsAre(x, "13: GRAND", 2, 0, 0, 0, 1, 0, 1, 1, 0);
-        x = houseOf(4, 2, 1, 1, 0, 0, 5, 5, 0, 0);
+        DUE.pits(x, "13: GRAND", 2, 0, 0, 0, 1, 0, 1, 1, 0);
+        x = Houses.of(4, 2, 1, 1, 0, 0, 5, 5, 0, 0);
         x.rule(3);
         DUE.made(x, "13: it had a seed", x.move(0, 0), 0);
-        x = houseOf(2, 2, 2, 0, 3, 3);
+        x = Houses.of(2, 2, 2, 0, 3, 3);
         x.rule(3);
         DUE.made(x, "13: into the PIT it came from", x.move(0, 0), 3);
-        pitsAre(x, "13: GRAND", 2, 1, 1, 0, 3);
-        x = houseOf(2, 2, 4, 0, 3, 3);
+        DUE.pits(x, "13: GRAND", 2, 1, 1, 0, 3);
+        x = Houses.of(2, 2, 4, 0, 3, 3);
         x.rule(3);
         DUE.made(x, "13: that had one of this SOWING", x.move(0, 0), 0);
-        pitsAre(x, "13: GRAND", 2, 2, 2, 3, 3);
+        DUE.pits(x, "13: GRAND", 2, 2, 2, 3, 3);
     }
 
     private static void moveRefuses() {
-        SowingHouse x = houseOf(2, 3, 2, 0, -1, 1, 0, 0);
+        SowingHouse x = Houses.of(2, 3, 2, 0, -1, 1, 0, 0);
         long before = x.digest();
         DUE.refused(x, "13: move(2, 5)", x.move(2, 5), 2);
         DUE.refused(x, "13: move(-1, 0)", x.move(-1, 0), 2);
@@ -295,7 +275,7 @@ public final class MoveTest {
     }
 
     private static void undoAndRedo() {
-        SowingHouse x = houseOf(2, 3, 1, 0, 2, 1, 1, 1);
+        SowingHouse x = Houses.of(2, 3, 1, 0, 2, 1, 1, 1);
         x.rule(2);
         DUE.refused(x, "14: none", x.undo(), 8);
         DUE.refused(x, "15: none", x.redo(), 8);
@@ -331,7 +311,7 @@ public final class MoveTest {
     /** Each of these forgets all moves, even if it changes nothing. */
     private static void movesForgotten() {
         for (int what = 0; what < 11; what++) {
-            SowingHouse x = houseOf(2, 3, 1, 1, 1, 1, 1, 0);
+            SowingHouse x = Houses.of(2, 3, 1, 1, 1, 1, 1, 0);
             x.rule(what == 6 ? 1 : 2);
             x.move(0, 0);
             x.play(1);
@@ -343,7 +323,7 @@ public final class MoveTest {
             DUE.refused(x, "14: undo() behind " + what, x.undo(), 8);
             DUE.refused(x, "15: redo() behind " + what, x.redo(), 8);
         }
-        SowingHouse x = houseOf(2, 3, 1, 1, 1, 1, 1, 0);
+        SowingHouse x = Houses.of(2, 3, 1, 1, 1, 1, 1, 0);
         x.move(0, 0);
         x.move(1, 0);
         x.undo();
@@ -382,7 +362,7 @@ public final class MoveTest {
     }
 
     private static void thousandMoves() {
-        SowingHouse x = houseOf(2, 1, 1, 0);
+        SowingHouse x = Houses.of(2, 1, 1, 0);
         DUE.made(x, "41: play(999)", x.play(999), 999);
         DUE.made(x, "13: the 1000th", x.move(1, 0), 0);
         DUE.refused(x, "13: 1000 are made", x.move(0, 0), 10);

@@ -88,14 +88,11 @@ public final class PlayTest {
 
     /** All boards of twelve seeds in three PITS, of which SIDE 0 has two. */
     private static void bySolutionOfTwelve() {
-        SowingHouse x = new SowingHouse();
-        x.board(2, 2);
-        x.lack(1, 0);
-        x.rule(2);
-        int places = x.solve(12);
-        x.goOn(13);
-        x.player(0, 2, 0);
-        for (int place = (int) x.positions(11); place < places; place += 2) {
+        for (int place = 728; place < 910; place += 2) {
+            SowingHouse x = Houses.ruled(2, 2, 2, 0, 0, -1, 0);
+            DUE.made(x, "26: solve(12)", x.solve(12), 910);
+            x.goOn(13);
+            x.player(0, 2, 0);
             x.seeds(0, 0, x.ofPlace(place, 0));
             x.seeds(0, 1, x.ofPlace(place, 1));
             x.seeds(1, 1, x.ofPlace(place, 2));

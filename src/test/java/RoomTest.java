@@ -54,7 +54,7 @@ public final class RoomTest {
         SowingHouse x = new SowingHouse();
         for (int columns = 1; columns <= 8; columns++) {
             for (int rows = 2; rows <= 4; rows += 2) {
-                for (int n = 0; n <= 12; n++) {
+                for (int n = 0; n <= 12; n += 2) {
                     x.board(rows, columns);
                     x.solve(n);
                     x.goOn(1);

@@ -190,12 +190,10 @@ public final class SolveTest {
     /** Of all PLACES with a gain: BEST reaches it, by seeds that it takes or by a lesser RANK. */
     private static void bestGoesForward() {
         for (int kind = 0; kind < 4; kind++) {
-            SowingHouse x = new SowingHouse();
-            x.board(2, 2);
-            x.rule(kind);
-            int places = x.solve(5);
-            x.goOn(13);
-            for (int place = 0; place < places; place++) {
+            for (int place = 0; place < 252; place++) {
+                SowingHouse x = Houses.ruled(kind, 2, 2);
+                DUE.made(x, "26: solve(5)", x.solve(5), 252);
+                x.goOn(13);
                 int best = x.best(place);
                 if (x.status() == 0) {
                     bestOf(x, kind, place, best);
