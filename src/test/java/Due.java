@@ -4,9 +4,10 @@ import java.nio.file.Path;
 
 /** Holds answers against what is due, prints those that differ, and ends the test with exit code 1 if one did. */
 final class Due {
-    private static final long MOST_MILLISECONDS = 300_000;
+    private static final long MOST_SECONDS = 120;
     private static final String DOCUMENT = documentInOneLine();
     private static boolean watched;
+    private static volatile long answers;
 
     private int asked;
     private int wrong;
@@ -23,17 +24,23 @@ final class Due {
             return;
         }
         watched = true;
-        Thread watcher = new Thread(() -> {
+        Thread watcher = new Thread(Due::haltWithoutAnswers);
+        watcher.setDaemon(true);
+        watcher.start();
+    }
+
+    private static void haltWithoutAnswers() {
+        long seen = -1;
+        while (seen != answers) {
+            seen = answers;
             try {
-                Thread.sleep(MOST_MILLISECONDS);
+                Thread.sleep(1000 * MOST_SECONDS);
             } catch (InterruptedException e) {
                 return;
             }
-            System.out.println("a call has not come to its end");
-            Runtime.getRuntime().halt(1);
-        });
-        watcher.setDaemon(true);
-        watcher.start();
+        }
+        System.out.println("for " + MOST_SECONDS + " seconds no answer was looked at: a call does not end");
+        Runtime.getRuntime().halt(1);
     }
 
     private static String documentInOneLine() {
@@ -54,6 +61,7 @@ final class Due {
 
     void is(String call, long got, long want) {
         asked++;
+        answers = asked;
         if (got != want) {
             wrong++;
             System.out.println(sentence + call + " answered " + got + ", due is " + want);
@@ -90,6 +98,7 @@ final class Due {
 
     void holds(String what, boolean held) {
         asked++;
+        answers = asked;
         if (!held) {
             wrong++;
             System.out.println(sentence + "does not hold: " + what);

@@ -373,6 +373,16 @@ public final class EdgesOfBoardsTest {
         x.move(0, 0);
         DUE.made(x, "sowing may bring a PIT above 60", x.pit(1, 0), 61);
         DUE.made(x, "seeds(0, 0, 0) tells so", x.seeds(0, 0, 0), 61);
+        x = Houses.of(2, 1, 60, 60);
+        x.move(0, 0);
+        DUE.made(x, "even far above", x.pit(1, 0), 90);
+        x = Houses.of(2, 2, 2, 0, 0, 60);
+        x.seeds(0, 1, 3);
+        x.move(0, 1);
+        x.side(0);
+        x.seeds(0, 1, 3);
+        x.move(0, 1);
+        DUE.pits(x, "seed by seed", 2, 4, 0, 2, 62);
         x = Houses.ruled(2, 2, 1, 1, 2);
         x.move(0, 0);
         DUE.made(x, "what is in STORES is in no PIT", x.seeds(0, 0, 5), 5);

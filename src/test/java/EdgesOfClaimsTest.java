@@ -18,6 +18,7 @@ public final class EdgesOfClaimsTest {
         claimAnswersThePlace();
         claimRefused();
         claimRefusedOfNumbers();
+        ranksAreNotBelowZero();
         copy();
         copyRefused();
         check();
@@ -310,6 +311,16 @@ public final class EdgesOfClaimsTest {
         DUE.is("neither is changed", x.digest(), before);
         DUE.made(x, "value -60, rank 0", x.claim(3, -60, 0), 3);
         DUE.made(x, "value 60, rank 100000", x.claim(3, 60, 100000), 3);
+    }
+
+    private static void ranksAreNotBelowZero() {
+        DUE.sentence("ranks are not below 0.");
+        SowingHouse x = Houses.solvedOfTwo(0, 3);
+        x.copy();
+        DUE.refused(x, "rank -1 of a value 0", x.claim(4, 0, -1), 7);
+        DUE.made(x, "the CLAIMS are RIGHT still", x.check(), 20);
+        DUE.made(x, "rank 0", x.claim(4, 0, 0), 4);
+        DUE.made(x, "the CLAIMS are RIGHT", x.check(), 20);
     }
 
     private static void copy() {

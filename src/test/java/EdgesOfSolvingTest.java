@@ -3,10 +3,12 @@ public final class EdgesOfSolvingTest {
     private static final Due DUE = new Due();
 
     public static void main(String[] args) {
+        bestPlayOfBoth();
         playForEver();
         layersFromZeroOn();
         withoutAMove();
         theMostOverMoves();
+        asItWasBehindTheRoundAhead();
         ranks();
         reachesWhatIsTakenLessTheValue();
         bestAboveZero();
@@ -26,6 +28,28 @@ public final class EdgesOfSolvingTest {
         bestRefused();
         reachesRefused();
         DUE.end();
+    }
+
+    /** Played by BEST, SCORES at the end (or STORES, where play comes round again) differ by the VALUE. */
+    private static void bestPlayOfBoth() {
+        DUE.sentence("A POSITION's VALUE is the most by which the one to move can get more than the other from there on,"
+                + " both playing as well as they can");
+        for (int kind = 0; kind < 4; kind++) {
+            for (int place = 0; place < 140; place++) {
+                SowingHouse x = solvedOfFour(kind, place % 3);
+                for (int k = 0; k < 4; k++) {
+                    x.seeds(k / 2, k % 2, x.ofPlace(place, k));
+                }
+                int side = place & 1;
+                x.side(side);
+                x.player(0, 2, 0);
+                x.player(1, 2, 0);
+                int length = x.line(place);
+                DUE.made(x, "play(" + length + ")", x.play(length), length);
+                int more = x.score(side) - x.score(1 - side);
+                DUE.is("PLACE " + place + ", kind " + kind, more, x.value(place));
+            }
+        }
     }
 
     /** PLAIN on two PITS: a move always leaves the other a seed, so that no game ends but at its beginning. */
@@ -108,6 +132,28 @@ public final class EdgesOfSolvingTest {
         x.solve(4);
         x.goOn(13);
         return x;
+    }
+
+    /** PlainHouse keeps every round whole: were a round to see its own changes, ranks would be lesser. */
+    private static void asItWasBehindTheRoundAhead() {
+        DUE.sentence("of one of its own LAYER as it was behind the round ahead, of lower ones the VALUE. The LAYER is"
+                + " solved behind the first round that changes nothing; its values are VALUES.");
+        for (int kind = 0; kind < 4; kind++) {
+            PlainHouse y = new PlainHouse();
+            y.board(2, 2);
+            y.rule(kind);
+            y.solve(4);
+            y.goOn(13);
+            SowingHouse x = solvedOfFour(kind, 0);
+            for (int place = 30; place < 140; place++) {
+                DUE.is("rank(" + place + "), kind " + kind, x.rank(place), y.rank(place));
+                DUE.is("value(" + place + "), kind " + kind, x.value(place), y.value(place));
+            }
+        }
+        SowingHouse x = solvedOfFour(0, 0);
+        DUE.made(x, "rank 6, one more than that of PLACE 50", x.rank(33), 6);
+        DUE.made(x, "rank 5", x.rank(50), 5);
+        DUE.made(x, "rank 4, one more than those it leads to", x.rank(22), 4);
     }
 
     /**

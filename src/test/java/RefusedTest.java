@@ -22,6 +22,9 @@ public final class RefusedTest {
         refusedOfGreat();
         takenSetsStatusToZero();
         neverRefusedLeavesStatus();
+        lackingRowsAndColumns();
+        rulesAndMoves();
+        numbersAndSolving();
         orderOfReasons();
         DUE.end();
     }
@@ -94,6 +97,7 @@ public final class RefusedTest {
         x.player(0, 1, 0);
         x.solve(2);
         x.goOn(1);
+        x.line(0);
         return x;
     }
 
@@ -266,6 +270,8 @@ public final class RefusedTest {
         refused(house, "rounds(5), CAPTURING", 4, x -> x.rounds(5));
         refused(house, "redo()", 8, SowingHouse::redo);
         refused(house, "lineAt(-1)", 3, x -> x.lineAt(-1));
+        refused(house, "lack of a PIT with seeds", 7, RefusedTest::lackOfAPitWithSeeds);
+        refused(RefusedTest::relay, "lack of a PIT with seeds", 7, RefusedTest::lackOfAPitWithSeeds);
         Supplier<SowingHouse> feeding = () -> {
             SowingHouse x = Houses.ruled(2, 2, 2, 1, 1, 0, 0);
             x.feeding(1);
@@ -275,6 +281,14 @@ public final class RefusedTest {
         };
         refused(feeding, "move(0, 0), it does not feed", 5, x -> x.move(0, 0));
         refused(feeding, "move(1, 0), the other's", 5, x -> x.move(1, 0));
+    }
+
+    private static long lackOfAPitWithSeeds(SowingHouse x) {
+        int column = 0;
+        while (x.pit(1, column) == 0) {
+            column++;
+        }
+        return x.lack(1, column);
     }
 
     private static void refusedOfGrand() {
@@ -366,6 +380,72 @@ public final class RefusedTest {
             DUE.is("they leave STATUS", x.status(), why);
             x.pit(-1, 0);
         }
+    }
+
+    private static void lackingRowsAndColumns() {
+        SowingHouse x = relay();
+        DUE.sentence("1 the PIT LACKS.");
+        DUE.refused(x, "pit", x.pit(0, 1), 1);
+        DUE.refused(x, "seeds", x.seeds(0, 1, 1), 1);
+        DUE.refused(x, "lack", x.lack(0, 1), 1);
+        DUE.refused(x, "move", x.move(0, 1), 1);
+        DUE.sentence("2 no such row.");
+        for (int row : new int[] {-1, 2}) {
+            DUE.refused(x, "pit", x.pit(row, 0), 2);
+            DUE.refused(x, "seeds", x.seeds(row, 0, 1), 2);
+            DUE.refused(x, "lack", x.lack(row, 0), 2);
+            DUE.refused(x, "move", x.move(row, 0), 2);
+        }
+        DUE.sentence("3 no such column, PIT, SIDE, PLACE.");
+        for (int column : new int[] {-1, 3}) {
+            DUE.refused(x, "pit", x.pit(0, column), 3);
+            DUE.refused(x, "seeds", x.seeds(0, column, 1), 3);
+            DUE.refused(x, "lack", x.lack(0, column), 3);
+            DUE.refused(x, "move", x.move(0, column), 3);
+        }
+        DUE.refused(x, "no such PIT", x.reaches(0, 6), 3);
+        DUE.refused(x, "no such SIDE", x.side(2), 3);
+        DUE.refused(x, "no such PLACE", x.value(112), 3);
+        DUE.refused(x, "no such PLACE", x.ofPlace(x.positions(12), 0), 3);
+    }
+
+    private static void rulesAndMoves() {
+        DUE.sentence("4 the rule is not of that kind.");
+        for (int kind = 0; kind < 4; kind++) {
+            SowingHouse x = Houses.ruled(kind, 2, 1);
+            DUE.takenOrRefused(x, "rounds, kind " + kind, x.rounds(1), kind == 1, 1, 4);
+            DUE.takenOrRefused(x, "takes, kind " + kind, x.takes(1, 1), kind == 2, 1, 4);
+        }
+        DUE.sentence("5 not ALLOWED, or the game is OVER.");
+        SowingHouse x = Houses.of(2, 2, 1, 0, 1, 0);
+        DUE.refused(x, "not ALLOWED", x.move(0, 1), 5);
+        x.seeds(0, 0, 0);
+        DUE.refused(x, "OVER", x.move(0, 0), 5);
+        DUE.refused(x, "OVER", x.move(1, 0), 5);
+        DUE.sentence("6 LONG.");
+        x = Houses.ruled(1, 2, 1, 1, 10);
+        DUE.refused(x, "LONG", x.move(0, 0), 6);
+        DUE.sentence("8 nothing to take back, or to make again.");
+        DUE.refused(x, "nothing to take back", x.undo(), 8);
+        DUE.refused(x, "nothing to make again", x.redo(), 8);
+    }
+
+    private static void numbersAndSolving() {
+        DUE.sentence("7 a number not as told.");
+        SowingHouse x = relay();
+        DUE.refused(x, "seeds", x.seeds(0, 0, 61), 7);
+        DUE.refused(x, "k", x.ofPlace(0, 5), 7);
+        DUE.refused(x, "n", x.positions(13), 7);
+        DUE.sentence("9 not solved.");
+        DUE.refused(x, "a LAYER that is not solved", x.value(12), 9);
+        x.rule(1);
+        DUE.refused(x, "nothing is solved", x.value(0), 9);
+        DUE.sentence("10 too many.");
+        x = great();
+        DUE.refused(x, "too many seeds", x.place(), 10);
+        DUE.refused(x, "too many PLACES", x.solve(4), 10);
+        x = thousand();
+        DUE.refused(x, "too many moves", x.move(0, 0), 10);
     }
 
     /** Calls against which several reasons stand at once. */
