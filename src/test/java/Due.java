@@ -61,7 +61,7 @@ final class Due {
 
     void is(String call, long got, long want) {
         asked++;
-        answers = asked;
+        answers++;
         if (got != want) {
             wrong++;
             System.out.println(sentence + call + " answered " + got + ", due is " + want);
@@ -98,7 +98,7 @@ final class Due {
 
     void holds(String what, boolean held) {
         asked++;
-        answers = asked;
+        answers++;
         if (!held) {
             wrong++;
             System.out.println(sentence + "does not hold: " + what);
