@@ -9,6 +9,7 @@ public final class EdgesOfPlayTest {
         takingMost();
         bestIfSolved();
         elseAsTheFirst();
+        elseAsTheFirstAtTheFirstPlaceBehind();
         byNumberFromTheSeed();
         byNumberOfThoseAllowed();
         playSoMany();
@@ -151,6 +152,24 @@ public final class EdgesOfPlayTest {
         DUE.pits(x, "13 seeds have no PLACE", 2, 1, 9, 1, 2);
         Houses.lay(x, 2, 60, 60, 60, 60);
         DUE.made(x, "240 seeds have none", x.play(5), 5);
+    }
+
+    /** An earlier solving, of another board, had a move from PIT 0 at the PLACE that is the first not solved here. */
+    private static void elseAsTheFirstAtTheFirstPlaceBehind() {
+        DUE.sentence("2 BEST, if the PLACE is solved, else as 0");
+        for (int earlier = 1; earlier <= 3; earlier++) {
+            SowingHouse x = Houses.of(2, 2, 0, 0, -1, 0);
+            x.solve(earlier);
+            x.goOn(13);
+            x.lack(1, 1);
+            x.solve(2);
+            x.goOn(2);
+            x.player(0, 2, 0);
+            x.seeds(0, 1, 2);
+            DUE.made(x, "the first PLACE that is not solved", x.place(), x.positions(1));
+            DUE.made(x, "play(1)", x.play(1), 1);
+            DUE.pits(x, "from PIT 1", 2, 1, 1, -1, -1);
+        }
     }
 
     private static long step(long seed) {
